@@ -42,6 +42,8 @@ public final class CardsTest {
         check.due("6: BAD ahead of FULL", x.drum(360, 0, 0), -2);
         check.due("6: FULL", x.drum(0, 0, 0), -4);
         check.due("6: eight", x.count(2), 8);
+        check.due("7: no drum 8", x.clock(8, 0), -1000);
+        check.due("7: no drum 9", x.clock(9, 0), -1000);
         check.due("6: drift of 0", x.clock(0, 0), -99);
         check.due("6: drift of 1", x.clock(1, 0), 99);
     }
@@ -75,6 +77,8 @@ public final class CardsTest {
         check.due("8: BAD ahead of FULL", x.shake(0, 0, -1), -2);
         check.due("8: FULL", x.shake(0, 0, 0), -4);
         check.due("8: six", x.count(3), 6);
+        check.due("27: no shake 6", x.shakeTold(6, 0), -5);
+        check.due("27: no shake 7", x.shakeTold(7, 0), -5);
         check.due("8: place", x.shakeTold(1, 0), 359);
         check.due("8: depth", x.shakeTold(1, 1), 99);
         check.due("8: hour", x.shakeTold(1, 2), 9999999);
@@ -117,6 +121,9 @@ public final class CardsTest {
         check.due("10: NONE ahead of FULL", x.card(0, 2, 0, 0), -1);
         check.due("10: FULL", x.card(0, 0, 0, 0), -4);
         check.due("10: forty", x.count(4), 40);
+        check.due("11: no card 40", x.mend(40, 1), -1);
+        check.due("12: no card 41", x.wrong(41, 1), -1);
+        check.due("13: no card 42", x.cardTold(42, 1, 0), -1000000000);
     }
 
     private static void mended() {

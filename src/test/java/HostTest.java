@@ -61,6 +61,8 @@ public final class HostTest {
         check.due("32: it becomes", x.cell(0, 2, 300), 1);
         check.due("32: 300", holds(x, 0, 300), 1);
         check.due("32: and two 0", holds(x, 0, 0), 3);
+        x.cell(0, 0, 200);
+        x.cell(0, 1, 200);
         x.sheet(0, 2, 3);
         check.due("32: all 0 anew", x.watch(0, 8, 0), 3);
         check.due("32: by one drum", x.watched(), 2);

@@ -122,10 +122,13 @@ public final class ImageTest {
         x.image();
         x.clock(0, 2);
         x.wrong(1, 0);
+        x.wrong(0, 1);
         x.image();
+        x.wrong(0, 0);
         x.clock(0, 3);
         x.back();
         check.due("30: the last image", x.clock(0, 3), 2);
+        check.due("30: the last image", x.cardTold(0, 6, 0), 1);
         check.due("30: the last image", x.cardTold(1, 6, 0), 0);
         x.drum(1, 44, 1);
         x.image();

@@ -9,6 +9,7 @@ public final class RulesTest {
         open();
         forced();
         laws();
+        firstRule();
         names();
         sums();
         check.close();
@@ -122,6 +123,8 @@ public final class RulesTest {
         fault("take lateA ; call 2 ;", 9);
         fault("take `late ; call 2 ;", 5);
         fault("take {late ; call 2 ;", 5);
+        fault("take latez ; call 2 ;", 5);
+        fault("take late ; callz 2 ;", 12);
         fault("take /1 ; call 2 ;", 5);
         fault("take :1 ; call 2 ;", 5);
     }
@@ -204,6 +207,22 @@ fault("take not(not(-(1)));call 1;", 14);
         check.due("17: far < 100", x.law(1, 1, 0), 0);
         check.due("17: 4 = kind", x.law(2, 1, 2), 1);
         check.due("17: a card that isn't told yet", x.law(2, 1, 0), 1);
+    }
+
+    /** late, noise, far, kind; take and call. */
+    private static void firstRule() {
+        int[][] asked = {{49, 3, 99, 0, 1, 1}, {50, 3, 99, 0, 0, 1}, {49, 4, 100, 0, 0, 0}, {-49, 0, 0, 0, 1, 1},
+            {-50, 0, 100, 4, 0, 1}, {0, 9, 180, 4, 0, 1}, {0, 3, 180, 1, 1, 0}};
+        for (int[] a : asked) {
+            DrumWorld x = new DrumWorld();
+            x.shell(100, 1, 1);
+            x.drum(a[2], 0, a[1]);
+            x.shake(0, 0, 5000);
+            x.card(a[3], 0, 0, 5000 + 6 * a[2] + a[0]);
+            check.due("17: late", x.cardTold(0, 4, 0), a[0]);
+            check.due("17: take, late " + a[0] + ", noise " + a[1], x.law(0, 0, 0), a[4]);
+            check.due("17: call, far " + a[2] + ", kind " + a[3], x.law(0, 1, 0), a[5]);
+        }
     }
 
     private static void comesTo(String e, int card, long want) {

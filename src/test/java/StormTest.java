@@ -23,10 +23,26 @@ public final class StormTest {
     private static long storm(Random random) {
         DrumWorld x = new DrumWorld();
         long all = 0;
-        for (int n = 0; n < 512; n++) {
+        boolean isFull = random.nextBoolean();
+        if (isFull) {
+            fill(x, random);
+        }
+        for (int n = isFull ? 80 : 0; n < 512; n++) {
             all = all * 31 + call(x, random, random.nextInt(36));
         }
         return all;
+    }
+
+    /** All that there may be, by some eighty calls. */
+    private static void fill(DrumWorld x, Random random) {
+        for (int n = 0; n < 8; n++) {
+            x.shell(100, 1 + random.nextInt(99), random.nextInt(100));
+            x.drum(random.nextInt(360), random.nextInt(99), random.nextInt(10));
+            x.shake(random.nextInt(360), random.nextInt(100), random.nextInt(100000));
+        }
+        for (int n = 0; n < 40; n++) {
+            x.card(random.nextInt(6), random.nextInt(8), random.nextInt(6), random.nextInt(200000));
+        }
     }
 
     private static int any(Random random, int most) {
