@@ -3,16 +3,37 @@ final class Check {
     private final String name;
     private int asked;
     private int wrong;
+    private String sentence = "";
+    private int askedOfSentence = 1;
 
     Check(String name) {
         this.name = name;
     }
 
+    /**
+     * The document's words that the next answers are asked by. SentencesTest looks for them in the
+     * document, so they stand here as they stand there; and something must be asked of each.
+     */
+    void says(String words) {
+        endSentence();
+        sentence = words;
+        askedOfSentence = 0;
+    }
+
+    private void endSentence() {
+        if (askedOfSentence == 0) {
+            wrong++;
+            System.out.println(name + ": nothing is asked of \"" + sentence + "\"");
+        }
+    }
+
     void due(String call, long got, long want) {
         asked++;
+        askedOfSentence++;
         if (got != want) {
             wrong++;
-            System.out.println(name + ": " + call + " answered " + got + ", due is " + want);
+            System.out.println(name + ": " + call + " answered " + got + ", due is " + want
+                + (sentence.isEmpty() ? "" : " (\"" + sentence + "\")"));
         }
     }
 
@@ -25,6 +46,7 @@ final class Check {
     }
 
     void close() {
+        endSentence();
         System.out.println(name + ": " + asked + " asked, " + wrong + " wrong");
         if (wrong != 0 || asked == 0) {
             System.exit(1);
