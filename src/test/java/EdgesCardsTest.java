@@ -155,7 +155,8 @@ public final class EdgesCardsTest {
     }
 
     private static void late() {
-        check.says("It is LATE by its time as KNOWN less DRIFT of the DRUM (now), less HOUR of the SHAKE, less what is DUE");
+        check.says("It is LATE by its time as KNOWN less DRIFT of the DRUM (now), less HOUR of the SHAKE, less what is DUE of its KIND "
+            + "for how far both are APART and the SHAKE's DEPTH");
         run("shell(200, 99, 99)", "shell(200, 99, 99)", "shell(190, 99, 99)", "drum(0, 99, 0)", "drum(180, -99, 0)",
             "shake(0, 99, 9999999)", "shake(0, 0, 0)",
             "card(0, 0, 1, 9999999)", "cardTold(0, 4, 0) = 9999900", "clock(0, -99)", "cardTold(0, 4, 0) = 10000098",
@@ -163,6 +164,11 @@ public final class EdgesCardsTest {
             "card(0, 0, 0, 9999999)", "cardTold(2, 4, 0) = -99", "clock(0, 0)", "cardTold(2, 4, 0) = 0");
         run("shell(200, 99, 99)", "drum(180, 99, 0)", "shake(0, 0, 9999999)", "card(1, 0, 0, 0)",
             "cardTold(0, 4, 0) = " + -(9999999 + 99 + 106920));
+        int[] due = {550, 1150, 2100, 2200, 875, 4200};
+        for (int kind = 0; kind < 6; kind++) {
+            run("shell(100, 10, 20)", "shell(100, 8, 15)", "drum(355, 7, 0)", "shake(5, 50, 1000)", "card(" + kind + ", 0, 0, 3000)",
+                "cardTold(0, 4, 0) = " + (3000 - 7 - 1000 - due[kind]));
+        }
     }
 
     private static void lateByWhatIsNow() {

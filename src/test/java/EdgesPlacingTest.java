@@ -200,7 +200,7 @@ public final class EdgesPlacingTest {
     }
 
     private static void tens() {
-        check.says("by tens of how far they are APART (0 .. 17; the last one also 180)");
+        check.says("by tens of how far they are APART (0 .. 17; the last one also 180): how LATE all are together, by how many.");
         int[] fars = {0, 9, 10, 19, 20, 99, 100, 159, 160, 169, 170, 179, 180};
         int[] bins = {0, 0, 1, 1, 2, 9, 10, 15, 16, 16, 17, 17, 17};
         for (int i = 0; i < fars.length; i++) {
@@ -250,7 +250,8 @@ public final class EdgesPlacingTest {
     }
 
     private static void cap() {
-        check.says("of all CARDS that are HEARD how LATE each is, without sign, the CAP at most (NEVER: the CAP), together");
+        check.says("ALL OFF as KNOWN on a DAY, with a CAP: of all CARDS that are HEARD how LATE each is, without sign, the CAP at most "
+            + "(NEVER: the CAP), together");
         Run x = plain().rows("drum(0, 0, 0)", "shake(0, 0, 500000)", "card(0, 0, 0, 500010)", "refit(0, 9) = 9", "refit(0, 10) = 10", "refit(0, 11) = 10");
         x.rows("card(0, 0, 0, 499990)", "refit(0, 9) = 18", "refit(0, 10) = 20", "refit(0, 11) = 20", "refit(0, 1) = 2");
         x.rows("card(2, 0, 0, 500000)", "refit(0, 1) = 3", "refit(0, 10) = 30", "refit(0, 99999) = 100019");

@@ -74,7 +74,7 @@ public final class EdgesRulesTest {
     }
 
     private static void words() {
-        check.says("WORDS (as many letters a .. z as stand there)");
+        check.says("TOKENS, each as long as can be: WORDS (as many letters a .. z as stand there)");
         faultIn("late" + (char) 96, 4);
         faultIn("late" + (char) 123, 4);
         faultIn((char) 96 + "late", 0);
@@ -98,10 +98,13 @@ public final class EdgesRulesTest {
     }
 
     private static void keysAndNames() {
-        check.says("of a WORD that is neither KEY nor NAME");
+        check.says("NAMES: late far kind noise drift depth.");
         String[] names = {"late", "far", "kind", "noise", "drift", "depth"};
         for (String name : names) {
             reads("take " + name + ";call " + name + ";");
+        }
+        check.says("of a WORD that is neither KEY nor NAME");
+        for (String name : names) {
             faultIn(name.substring(1), 0);
             faultIn(name.substring(0, name.length() - 1), 0);
             faultIn(name + "s", 0);
@@ -129,6 +132,8 @@ public final class EdgesRulesTest {
         comesTo("0000", 0);
         comesTo("0009", 9);
         comesTo("1000", 1000);
+        reads("take 1234 + 5678;call 9999;");
+        check.says("a NUMBER that is too long");
         faultIn("10000", 0);
         faultIn("00000", 0);
         faultIn("99999", 0);
