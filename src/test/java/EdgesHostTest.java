@@ -49,14 +49,14 @@ public final class EdgesHostTest {
             }
         }
         for (int c = 0; c < 40; c++) {
-            x.rows("card(0, " + c % 8 + ", " + c % 6 + ", 8000)", "wrong(" + c + ", " + c / 6 % 2 + ")");
+            x.rows("card(0, " + c % 8 + ", " + c % 6 + ", 8000)", "wrong(" + c + ", " + isWrong(c) + ")");
         }
         x.rows("image() = 0");
         for (int n = 0; n < 8; n++) {
             x.rows("clock(" + n + ", 99)", "pace(" + n + ", 0, 1)", "pace(" + n + ", 1, 99)", "settle(" + n + ", 0)");
         }
         for (int c = 0; c < 40; c++) {
-            x.rows("wrong(" + c + ", " + (1 - c / 6 % 2) + ") = " + c / 6 % 2);
+            x.rows("wrong(" + c + ", " + (1 - isWrong(c)) + ") = " + isWrong(c));
         }
         x.rows("shakeTold(5, 1) = 0", "back() = 0");
         for (int n = 0; n < 8; n++) {
@@ -69,8 +69,13 @@ public final class EdgesHostTest {
             }
         }
         for (int c = 0; c < 40; c++) {
-            x.rows("cardTold(" + c + ", 6, 0) = " + c / 6 % 2);
+            x.rows("cardTold(" + c + ", 6, 0) = " + isWrong(c));
         }
+    }
+
+    /** The first and the last one, too: a card is not wrong by itself. */
+    private static int isWrong(int c) {
+        return (c / 6 + 1) % 2;
     }
 
     private static void imageOfThoseThen() {

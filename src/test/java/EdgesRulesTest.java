@@ -70,6 +70,11 @@ public final class EdgesRulesTest {
         fault(" ".repeat(160), 160);
         fault(" ".repeat(159) + "?", 159);
         fault("1".repeat(160), 0);
+        // as many tokens as bytes
+        fault(";".repeat(160), 0);
+        fault("?".repeat(160), 0);
+        fault("take " + "(".repeat(155), 10);
+        fault("take 1" + "*1".repeat(77), 160);
         fault("take " + "1 + ".repeat(38) + "1  ", 160);
     }
 

@@ -141,7 +141,7 @@ public final class RulesTest {
         stands("not not not not not 1");
         fault("take not not not not not not 1;call 1;", 25);
         stands("not(not(-1))");
-fault("take not(not(-(1)));call 1;", 14);
+        fault("take not(not(-(1)));call 1;", 14);
         stands("not not not not not 1 and not not not not not 1");
         stands("-----1+-----1--1");
         stands("-----1*-----1");
