@@ -144,6 +144,7 @@ public final class EdgesCardsTest {
             "mend(1, 9) = 600", "cardTold(1, 3, 5) = 600", "cardTold(1, 3, 6) = 9");
         small().rows("card(0, 0, 0, 500)", "mend(0, 50) = 500", "cardTold(0, 3, 0) = 50");
         small().rows("days(2)", "card(0, 0, 0, 500)", "mend(0, 50) = 500", "cardTold(0, 3, 1) = 500", "cardTold(0, 3, 2) = 50");
+        small().rows("card(0, 0, 0, 500)", "mend(0, 500) = 500", "mend(0, 7) = STATE", "cardTold(0, 3, 0) = 500");
         small().rows("card(0, 0, 0, 500)", "mend(0, 0) = 500", "cardTold(0, 3, 0) = 0", "mend(0, 500) = STATE",
             "cardTold(0, 3, 0) = 0");
     }
