@@ -1,11 +1,8 @@
 import java.util.Random;
-import java.util.regex.Matcher;
-import java.util.regex.Pattern;
 
 /** Made-up texts, whole and broken, against a second reader that reckons while it reads. */
 public final class TextTwinTest {
     private static final Check check = new Check("TextTwinTest");
-    private static final String[] NAMES = {"late", "far", "kind", "noise", "drift", "depth"};
     private static final String[] PIECES = {"take", "call", "or", "and", "not", "late", "far", "kind", "noise",
         "drift", "depth", "(", ")", ";", "+", "-", "*", "<", "=", "1", "0", "77", "9999", "10000", "lat", "?", "A"};
 
@@ -48,7 +45,7 @@ public final class TextTwinTest {
         return twin.isText;
     }
 
-    private static String madeUp(Random random) {
+    static String madeUp(Random random) {
         String text;
         do {
             text = "take " + e(random, 0, 5) + ";" + gap(random) + "call " + e(random, 0, 5) + gap(random) + ";";
@@ -86,7 +83,7 @@ public final class TextTwinTest {
             return "" + random.nextInt(which == 0 ? 3 : 10000);
         }
         if (which < 4) {
-            return NAMES[random.nextInt(6)];
+            return TextTwin.NAMES[random.nextInt(6)];
         }
         if (which == 4) {
             return "-" + gap(random) + one(random, room - 1);
@@ -94,7 +91,7 @@ public final class TextTwinTest {
         return which == 5 ? "(" + e(random, 0, room - 1) + ")" : "" + random.nextInt(9);
     }
 
-    private static String broken(String text, Random random) {
+    static String broken(String text, Random random) {
         StringBuilder made = new StringBuilder(text);
         int at = random.nextInt(text.length() + 1);
         switch (random.nextInt(4)) {
@@ -105,142 +102,5 @@ public final class TextTwinTest {
         }
         made.setLength(Math.min(160, made.length()));
         return made.toString();
-    }
-
-    /** Reads by a Pattern and throws at a fault. */
-    private static final class TextTwin {
-        private static final Pattern TOKEN = Pattern.compile("[a-z]+|[0-9]+|[();+*<=-]|[^ \n]");
-        private final String text;
-        private final int[] values;
-        private final Matcher matcher;
-        private String token;
-        private int place;
-        private int open;
-        boolean isText;
-        int take, call, fault;
-
-        TextTwin(String text, int[] values) {
-            this.text = text;
-            this.values = values;
-            matcher = TOKEN.matcher(text);
-            try {
-                next();
-                need("take");
-                take = or();
-                need(";");
-                need("call");
-                call = or();
-                need(";");
-                need("");
-                isText = true;
-            } catch (IllegalStateException e) {
-                fault = place;
-            }
-        }
-
-        private void next() {
-            boolean is = matcher.find();
-            token = is ? matcher.group() : "";
-            place = is ? matcher.start() : text.length();
-        }
-
-        private void need(String wanted) {
-            if (!token.equals(wanted)) {
-                throw new IllegalStateException();
-            }
-            if (!wanted.isEmpty()) {
-                next();
-            }
-        }
-
-        private boolean got(String wanted) {
-            boolean is = token.equals(wanted);
-            if (is) {
-                next();
-            }
-            return is;
-        }
-
-        private void opens() {
-            if (open == 5) {
-                throw new IllegalStateException();
-            }
-            open++;
-            next();
-        }
-
-        private int or() {
-            int v = and();
-            while (got("or")) {
-                int w = and();
-                v = v != 0 | w != 0 ? 1 : 0;
-            }
-            return v;
-        }
-
-        private int and() {
-            int v = not();
-            while (got("and")) {
-                int w = not();
-                v = v != 0 & w != 0 ? 1 : 0;
-            }
-            return v;
-        }
-
-        private int not() {
-            if (token.equals("not")) {
-                opens();
-                int v = not();
-                open--;
-                return v == 0 ? 1 : 0;
-            }
-            int v = sum();
-            if (got("<")) {
-                return v < sum() ? 1 : 0;
-            }
-            return got("=") ? (v == sum() ? 1 : 0) : v;
-        }
-
-        private int sum() {
-            int v = term();
-            while (token.equals("+") || token.equals("-")) {
-                int sign = token.equals("+") ? 1 : -1;
-                next();
-                v += sign * term();
-            }
-            return v;
-        }
-
-        private int term() {
-            int v = one();
-            while (got("*")) {
-                v *= one();
-            }
-            return v;
-        }
-
-        private int one() {
-            for (int i = 0; i < 6; i++) {
-                if (got(NAMES[i])) {
-                    return values[i];
-                }
-            }
-            if (token.matches("[0-9]{1,4}")) {
-                int v = Integer.parseInt(token);
-                next();
-                return v;
-            }
-            boolean isMinus = token.equals("-");
-            if (!isMinus && !token.equals("(")) {
-                throw new IllegalStateException();
-            }
-            opens();
-            int v = isMinus ? -one() : or();
-            if (!isMinus) {
-                need(")");
-            }
-            open--;
-            return v;
-        }
     }
 }

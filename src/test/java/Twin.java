@@ -6,7 +6,7 @@ import java.util.List;
  * A second telling of the ball, the cards and all that is searched among them, as plain as the
  * document's words and without regard for speed, to be asked the same as a DrumWorld.
  */
-final class Twin {
+class Twin {
     static final int NONE = -1;
     static final int NEVER = 1000000000;
 
